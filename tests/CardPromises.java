@@ -103,10 +103,26 @@ public final class CardPromises {
         Due.is("without second ones", 0, x.kind(0, 0));
         Due.is("ridges up to 9 are few", 9, x.ridges(LEFT));
         Due.is("12 are more", 12, x.ridges(FAR_LEFT));
+        classByRidges();
         Due.outside("card 1", () -> x.kind(1, 0));
         Due.outside("card -1", () -> x.kind(-1, 0));
         Due.outside("finger 10", () -> x.kind(0, 10));
         Due.outside("finger -1", () -> x.kind(0, -1));
+    }
+
+    /** Core (2, 4), delta (6, 4), crossed by 4 cells; the third one is 4, 2, 1 or blank. */
+    private static void classByRidges() {
+        RidgeBureau x = new RidgeBureau();
+        String[] thirds = {"4", "2", "1", "."};
+        int[] ridges = {12, 11, 10, 9};
+        for (int i = 0; i < 4; i++) {
+            String field = "00222200/00222200/00222200/00222200/66444466/66444466/66444466/66444466";
+            Due.print(x, field.replaceFirst("66444466", "6644" + thirds[i] + "466"));
+            Due.is("ridges by " + thirds[i], ridges[i], x.ridges(i));
+            x.card(i);
+            x.finger(i, 0, i);
+            Due.is("class by " + thirds[i], i < 3 ? 3 : 2, x.kind(i, 0));
+        }
     }
 
     private static void promise20() {

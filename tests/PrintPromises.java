@@ -217,8 +217,41 @@ public final class PrintPromises {
         Due.print(x, "00222000/00222000/00222000/00222000/66477666/66477666/66477666/66477666");
         Due.is("4 7 makes the corner between them the delta", 23, x.singular(9, 0, true));
         Due.is("from (2, 4) to (3, 4): 4", 3, x.ridges(9));
-        Due.outside("print 10", () -> x.ridges(10));
+        Due.print(x, Due.LEFT.replaceFirst("66444666", "664.4666"));
+        Due.is("a blank cell does not end the pattern", 2, x.pattern(10));
+        Due.is("a blank cell along x: 4 . 4", 6, x.ridges(10));
+        Due.print(x, turned(Due.TENT, 4).replaceFirst("22220000/22220000", "22220000/2222.000"));
+        Due.is("still a tent", 1, x.pattern(11));
+        Due.is("a blank cell along y: 0 . 0", 6, x.ridges(11));
+        Due.outside("print 12", () -> x.ridges(12));
         Due.outside("print -1", () -> x.ridges(-1));
+        ridgesByDirection();
+    }
+
+    /** A field whose directions are all so much more; so its corners turn as they did. */
+    private static String turned(String field, int more) {
+        StringBuilder text = new StringBuilder(field);
+        for (int i = 0; i < text.length(); i++) {
+            if (text.charAt(i) != '/') {
+                text.setCharAt(i, (char) ('0' + (text.charAt(i) - '0' + more) % 8));
+            }
+        }
+        return text.toString();
+    }
+
+    private static void ridgesByDirection() {
+        int[] alongX = {0, 1, 2, 3, 3, 3, 2, 1};
+        int[] alongY = {3, 3, 2, 1, 0, 1, 2, 3};
+        for (int more = 0; more < 8; more++) {
+            RidgeBureau x = new RidgeBureau();
+            Due.print(x, turned(Due.LEFT, more));
+            Due.print(x, turned(Due.RIGHT, more));
+            Due.print(x, turned(Due.TENT, more));
+            int crossed = (4 + more) % 8;
+            Due.is("three along x", 3 * alongX[crossed], x.ridges(0));
+            Due.is("three along x, the other way", 3 * alongX[crossed], x.ridges(1));
+            Due.is("three along y", 3 * alongY[crossed], x.ridges(2));
+        }
     }
 
     private static void promise11() {

@@ -145,6 +145,12 @@ public final class RandomRuns {
 
     private String fieldText() {
         StringBuilder text = new StringBuilder(FIELDS[pick(FIELDS.length)]);
+        int more = chance(50) ? pick(8) : 0;
+        for (int i = 0; i < text.length(); i++) {
+            if (text.charAt(i) != '/') {
+                text.setCharAt(i, (char) ('0' + (text.charAt(i) - '0' + more) % 8));
+            }
+        }
         for (int i = chance(30) ? pick(4) : 0; i > 0; i--) {
             int at = pick(text.length());
             if (text.charAt(at) != '/') {
@@ -604,8 +610,15 @@ public final class RandomRuns {
         }
         makeRules();
         if (profile == 4) {
-            for (int i = 0; i < 230; i++) {
-                aboutSayings();
+            both("finger(0, 0, 0)", () -> bit(x.finger(0, 0, 0)), () -> bit(y.finger(0, 0, 0)));
+            for (int i = 0; i < 205; i++) {
+                int examiner = pick(6);
+                int what = pick(3);
+                both(call("say", examiner, 0, 0, 0, what), () -> x.say(examiner, 0, 0, 0, what),
+                        () -> y.say(examiner, 0, 0, 0, what));
+                if (i % 40 == 0) {
+                    pass();
+                }
             }
         }
         if (profile == 5) {

@@ -23,6 +23,13 @@ public final class RulePromises {
         Due.badRules(" same", 5);
         Due.badRules("samex if grave", 0);
         Due.badRules("sam if grave", 0);
+        Due.badRules("samez if grave", 0);
+        Due.badRules("samea if grave", 0);
+        Due.badRules("asame if grave", 0);
+        Due.badRules("same{ if grave", 4);
+        Due.badRules("same` if grave", 4);
+        Due.badRules("same: if grave", 4);
+        Due.badRules("same/ if grave", 4);
         Due.badRules("Same if grave", 0);
         Due.badRules("same grave", 5);
         Due.badRules("sameif grave", 0);

@@ -371,6 +371,9 @@ public final class RidgeBureau {
 
     /** The rule by which a mark's verdict upon a print comes; NONE without one. */
     private int decidingRule(int mark, int print, int day) {
+        if (!now.isMark(mark) || !now.isPrint(print)) {
+            return NONE;
+        }
         Mark itsMark = now.marks[mark];
         Print itsPrint = now.prints[print];
         lays.find(lays.keyOfMark(mark, print), itsMark.sheet, itsPrint.sheet, now.slackNow);
@@ -389,7 +392,7 @@ public final class RidgeBureau {
             throw new IllegalArgumentException("nobody says that");
         }
         Table all = now.sayings;
-        if (now.cards[card].prints[finger] == NONE || all.isFull()) {
+        if (now.printAt(card, finger) == NONE || all.isFull()) {
             return NONE;
         }
         int row = all.open();
@@ -434,7 +437,7 @@ public final class RidgeBureau {
     }
 
     private boolean isProved(int mark, int card, int finger, int day) {
-        int print = now.cards[card].prints[finger];
+        int print = now.printAt(card, finger);
         if (print == NONE) {
             return false;
         }
@@ -464,9 +467,7 @@ public final class RidgeBureau {
     private int alikeFingers(int lesser, int other, int day) {
         int count = 0;
         for (int finger = 0; finger < FINGERS; finger++) {
-            int upper = now.cards[lesser].prints[finger];
-            int lower = now.cards[other].prints[finger];
-            if (upper != NONE && lower != NONE && arePrintsAlike(upper, lower, day)) {
+            if (arePrintsAlike(now.printAt(lesser, finger), now.printAt(other, finger), day)) {
                 count++;
             }
         }
@@ -474,6 +475,9 @@ public final class RidgeBureau {
     }
 
     private boolean arePrintsAlike(int upper, int lower, int day) {
+        if (!now.isPrint(upper) || !now.isPrint(lower)) {
+            return false;
+        }
         Print laid = now.prints[upper];
         Print under = now.prints[lower];
         if (laid.itsClass != under.itsClass) {
@@ -707,11 +711,11 @@ public final class RidgeBureau {
         long over = 1;
         long under = 1;
         for (int finger = 0; finger < FINGERS; finger++) {
-            int print = now.cards[card].prints[finger];
-            if (print == NONE) {
+            int itsClass = now.shownClass(card, finger);
+            if (itsClass == NONE) {
                 continue;
             }
-            over *= 1 + now.countClass(finger, now.prints[print].itsClass);
+            over *= 1 + now.countClass(finger, itsClass);
             under *= 2 + now.countPrints(finger);
             long common = commonDivisor(over, under);
             if (common > 1) {
@@ -808,25 +812,25 @@ public final class RidgeBureau {
     // ---- what calls are refused for
 
     private void needPrint(int print) {
-        if (print < 0 || print >= now.printCount) {
+        if (!now.isPrint(print)) {
             throw new IndexOutOfBoundsException("no such print");
         }
     }
 
     private void needMark(int mark) {
-        if (mark < 0 || mark >= now.markCount) {
+        if (!now.isMark(mark)) {
             throw new IndexOutOfBoundsException("no such mark");
         }
     }
 
     private void needCard(int card) {
-        if (card < 0 || card >= now.cardCount) {
+        if (!now.isCard(card)) {
             throw new IndexOutOfBoundsException("no such card");
         }
     }
 
     private static void needFinger(int finger) {
-        if (finger < 0 || finger >= FINGERS) {
+        if (!State.isFinger(finger)) {
             throw new IndexOutOfBoundsException("no such finger");
         }
     }
@@ -885,14 +889,16 @@ public final class RidgeBureau {
             }
         }
 
-        /** False always, so that a reader can return it. */
+        /** False always, as fail() is, so that a reader can return it. */
         boolean failAt(int first) {
             fault = first;
             return false;
         }
 
+        /** Tells the token that comes next, or the text's length, as the fault. */
         boolean fail() {
-            return failAt(place < tokenCount ? starts[place] : length);
+            fault = place < tokenCount ? starts[place] : length;
+            return false;
         }
 
         /** Makes tokens of the bytes, and begins ahead of the first. */
@@ -1176,7 +1182,7 @@ public final class RidgeBureau {
                     continue;
                 }
                 int direction = directionBy(sign);
-                if (direction == WRONG || column == SIDE) {
+                if (direction == WRONG || column >= SIDE) {
                     return tape.failAt(place);
                 }
                 cells[SIDE * row + column] = direction;
@@ -1278,14 +1284,16 @@ public final class RidgeBureau {
             int deltaY = delta / CORNERS_A_LINE + 1;
             int crossed = 0;
             for (int x = Math.min(coreX, deltaX); x < Math.max(coreX, deltaX); x++) {
-                int direction = direction(x, coreY);
-                crossed += direction == NONE ? 0 : RIDGES_ALONG_X[direction];
+                crossed += ridgesBy(direction(x, coreY), RIDGES_ALONG_X);
             }
             for (int y = Math.min(coreY, deltaY); y < Math.max(coreY, deltaY); y++) {
-                int direction = direction(deltaX, y);
-                crossed += direction == NONE ? 0 : RIDGES_ALONG_Y[direction];
+                crossed += ridgesBy(direction(deltaX, y), RIDGES_ALONG_Y);
             }
             return crossed;
+        }
+
+        private static int ridgesBy(int direction, int[] ridges) {
+            return direction >= 0 && direction < ridges.length ? ridges[direction] : 0;
         }
 
         private int findClass() {
@@ -1446,7 +1454,7 @@ public final class RidgeBureau {
 
         /** Whether point i comes to a mate, others giving way to further mates of theirs. */
         private boolean pair(int i, int depth) {
-            if (depth > MOST_POINTS) {
+            if (i < 0 || i >= MOST_POINTS || depth > MOST_POINTS) {
                 return false;
             }
             for (int j = 0; j < MOST_POINTS; j++) {
@@ -1899,8 +1907,35 @@ public final class RidgeBureau {
             return found == NONE ? noText : texts[found];
         }
 
+        boolean isPrint(int print) {
+            return print >= 0 && print < printCount;
+        }
+
+        boolean isMark(int mark) {
+            return mark >= 0 && mark < markCount;
+        }
+
+        boolean isCard(int card) {
+            return card >= 0 && card < cardCount;
+        }
+
+        static boolean isFinger(int finger) {
+            return finger >= 0 && finger < FINGERS;
+        }
+
         boolean isInFile(int card) {
-            return card >= 0 && card < cardCount && cards[card].struckOn == NONE;
+            return isCard(card) && cards[card].struckOn == NONE;
+        }
+
+        /** The print of a finger of a card; NONE if it is missing. */
+        int printAt(int card, int finger) {
+            return isCard(card) && isFinger(finger) ? cards[card].prints[finger] : NONE;
+        }
+
+        /** The class of the print of a finger of a card; NONE if it is missing. */
+        int shownClass(int card, int finger) {
+            int print = printAt(card, finger);
+            return isPrint(print) ? prints[print].itsClass : NONE;
         }
 
         int countInFile() {
@@ -1915,7 +1950,7 @@ public final class RidgeBureau {
         int countPrints(int finger) {
             int found = 0;
             for (int card = 0; card < cardCount; card++) {
-                found += isInFile(card) && cards[card].prints[finger] != NONE ? 1 : 0;
+                found += isInFile(card) && printAt(card, finger) != NONE ? 1 : 0;
             }
             return found;
         }
@@ -1924,26 +1959,23 @@ public final class RidgeBureau {
         int countClass(int finger, int itsClass) {
             int found = 0;
             for (int card = 0; card < cardCount; card++) {
-                int print = cards[card].prints[finger];
-                found += isInFile(card) && print != NONE && prints[print].itsClass == itsClass ? 1 : 0;
+                found += isInFile(card) && shownClass(card, finger) == itsClass ? 1 : 0;
             }
             return found;
         }
 
         boolean isLeft(int mark, int card, int finger) {
-            Card its = cards[card];
-            return isInFile(card) && its.prints[finger] != NONE && (its.compared[finger] >> mark & 1) == 0;
+            return isInFile(card) && printAt(card, finger) != NONE && (cards[card].compared[finger] >> mark & 1) == 0;
         }
 
         /** A finger's class in the reading by the second classes of some fingers, a bit each. */
         int classOf(int card, int finger, int bySecond) {
-            Card its = cards[card];
-            int shown = its.prints[finger] != NONE ? finger : (finger + HAND) % FINGERS;
-            int print = its.prints[shown];
-            if (print == NONE) {
+            int shown = printAt(card, finger) != NONE ? finger : (finger + HAND) % FINGERS;
+            int itsClass = shownClass(card, shown);
+            if (itsClass == NONE) {
                 return LAST_CLASS;
             }
-            return (bySecond >> shown & 1) == 1 ? its.seconds[shown] : prints[print].itsClass;
+            return (bySecond >> shown & 1) == 1 ? cards[card].seconds[shown] : itsClass;
         }
 
         /** The number of a reading, upper and lower together. */
