@@ -381,7 +381,7 @@ public final class RandomRuns {
                 break;
             case 4:
                 int second = chance(20) ? -1 : within(0, 7);
-                int its = chance(70) ? pick(3) : finger;
+                int its = profile != 6 && chance(60) ? pick(3) : finger;
                 both(call("doubt", card, its, second), () -> bit(x.doubt(card, its, second)),
                         () -> bit(y.doubt(card, its, second)));
                 break;
@@ -396,10 +396,11 @@ public final class RandomRuns {
     }
 
     private void aboutSayings() {
-        int examiner = index(6);
-        int mark = index(y.count(4));
-        int card = index(y.count(2));
-        int finger = chance(80) ? pick(3) : index(10);
+        boolean isOften = profile == 6 || chance(50);
+        int examiner = isOften ? pick(3) : index(6);
+        int mark = isOften ? pick(2) : index(y.count(4));
+        int card = isOften ? pick(2) : index(y.count(2));
+        int finger = isOften ? pick(2) : index(10);
         int day = day();
         switch (pick(4)) {
             case 0:
@@ -624,6 +625,9 @@ public final class RandomRuns {
         if (profile == 5) {
             fillHits();
         }
+        if (profile == 6) {
+            fillDoubts();
+        }
         for (int i = 0; i < 15; i++) {
             setFinger();
         }
@@ -646,6 +650,29 @@ public final class RandomRuns {
             return 0;
         });
         both("days(4)", () -> x.days(4), () -> y.days(4));
+    }
+
+    /** Two cards with all fingers, most of them doubtful, and two marks that are much spoken of. */
+    private void fillDoubts() {
+        for (int i = 0; i < 20; i++) {
+            int card = i % 2;
+            int finger = i / 2;
+            int print = pick(3);
+            both(call("finger", card, finger, print), () -> bit(x.finger(card, finger, print)),
+                    () -> bit(y.finger(card, finger, print)));
+        }
+        for (int i = 0; i < 14; i++) {
+            int card = pick(2);
+            int finger = pick(10);
+            int second = pick(9) - 1;
+            both(call("doubt", card, finger, second), () -> bit(x.doubt(card, finger, second)),
+                    () -> bit(y.doubt(card, finger, second)));
+            both(call("drawers", card), () -> x.drawers(card), () -> y.drawers(card));
+            both(call("like", card, 0), () -> x.like(card, 0), () -> y.like(card, 0));
+        }
+        for (int i = 0; i < 60; i++) {
+            aboutSayings();
+        }
     }
 
     private boolean isRight() {
