@@ -25,6 +25,7 @@ public final class ImagePromises {
         }
         Due.is(when + ": pairs", 1, x.lay(0, 0, 0));
         Due.is(when + ": against", 0, x.lay(0, 0, 1));
+        Due.is(when + ": turn", 0, x.lay(0, 0, 2));
         Due.is(when + ": a hit's pairs", 1, x.hit(0, 4));
         Due.is(when + ": check", -1, x.check());
         Due.is(when + ": left", 1, x.left(0));
@@ -54,6 +55,8 @@ public final class ImagePromises {
         Due.rules(x, 1, "doubt if pairs<9;strike if cleared");
         x.desk(30);
         x.days(2);
+        // by turn 3 the mark's (50, 50) comes upon (40, 40), and nothing is left in what is clear on both
+        Due.is("turn, with the points that came", 3, x.lay(0, 0, 2));
     }
 
     private static void promise42and43() {

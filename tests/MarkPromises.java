@@ -114,10 +114,14 @@ public final class MarkPromises {
 
     private static void against() {
         // the second point of the mark pairs with none: against, if it comes to lie within 0 to 63
-        best("beside", bureau(new int[][] {{30, 30, 0, 0}}, new int[][] {{30, 30, 0, 0}, {40, 30, 1, 0}}), 1, 1, 0, 0, 0);
-        best("beyond 63", bureau(new int[][] {{60, 30, 0, 0}}, new int[][] {{30, 30, 0, 0}, {40, 30, 1, 0}}), 1, 0, 0, 30, 0);
-        best("on 63", bureau(new int[][] {{53, 30, 0, 0}}, new int[][] {{30, 30, 0, 0}, {40, 30, 1, 0}}), 1, 1, 0, 23, 0);
-        best("beyond 0", bureau(new int[][] {{30, 5, 0, 0}}, new int[][] {{30, 30, 0, 0}, {30, 20, 1, 0}}), 1, 0, 0, 0, -25);
+        best("beside", bureau(new int[][] {{30, 30, 0, 0}}, new int[][] {{30, 30, 0, 0}, {40, 30, 1, 0}}),
+                1, 1, 0, 0, 0);
+        best("beyond 63", bureau(new int[][] {{60, 30, 0, 0}}, new int[][] {{30, 30, 0, 0}, {40, 30, 1, 0}}),
+                1, 0, 0, 30, 0);
+        best("on 63", bureau(new int[][] {{53, 30, 0, 0}}, new int[][] {{30, 30, 0, 0}, {40, 30, 1, 0}}),
+                1, 1, 0, 23, 0);
+        best("beyond 0", bureau(new int[][] {{30, 5, 0, 0}}, new int[][] {{30, 30, 0, 0}, {30, 20, 1, 0}}),
+                1, 0, 0, 0, -25);
         // the second point of the print pairs with none: against, if it lies within the mark's clear as that lies
         int[][] two = {{30, 30, 0, 0}, {35, 33, 1, 0}};
         int[][] one = {{10, 10, 0, 0}};

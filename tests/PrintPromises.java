@@ -193,7 +193,11 @@ public final class PrintPromises {
         Due.is("delta 2", -1, x.singular(0, 2, true));
         Due.is("delta MIN", -1, x.singular(0, MIN, true));
         Due.is("delta MAX", -1, x.singular(0, MAX, true));
-        Due.outside("print 1", () -> x.singular(1, 0, true));
+        Due.print(x, "02000000/64000000/44000000/44000000/44000000/44000000/44000000/44000000");
+        Due.is("a core at the first corner", 0, x.singular(1, 0, false));
+        Due.print(x, "00000044/00000044/00000044/00000044/00000044/00000044/00000002/00000064");
+        Due.is("a core at the last corner", 48, x.singular(2, 0, false));
+        Due.outside("print 3", () -> x.singular(3, 0, true));
         Due.outside("print -1", () -> x.singular(-1, 0, true));
     }
 

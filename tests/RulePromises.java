@@ -109,8 +109,27 @@ public final class RulePromises {
         Due.badRules("need 1;".repeat(11) + "need 1 x", 84);
     }
 
+    /** What lies behind the text on the tape is no part of it. */
+    private static void cutTexts() {
+        RidgeBureau x = new RidgeBureau();
+        Due.write(x, "need 10");
+        x.end(6);
+        Due.is("cut in a number", 1, x.rules(0));
+        Due.write(x, "keep 9 if graves");
+        x.end(15);
+        Due.is("cut in a word", 1, x.rules(0));
+        Due.write(x, "keep 9 if grave");
+        x.end(14);
+        Due.illegal("cut in a word", () -> x.rules(0));
+        Due.is("a word that is none", 10, x.fault());
+        Due.is("400 bytes", 1, Due.rules(x, 0, " ".repeat(394) + "need 6"));
+        Due.is("400 bytes", 1, Due.rules(x, 0, "keep 9 if" + " ".repeat(386) + "grave"));
+        Due.is("many words", 1, Due.rules(x, 0, "keep 9 if child" + " or child".repeat(42) + "       "));
+    }
+
     private static void promise23() {
         goodTexts();
+        cutTexts();
         badWords();
         badNumbersAndSigns();
         badDepths();

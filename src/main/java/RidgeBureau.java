@@ -857,7 +857,7 @@ public final class RidgeBureau {
     /** The bytes of a text; for a text of rules also its tokens: words, numbers and signs. */
     private static final class Tape {
         /** A word's token is how many words stand ahead of it here; RuleText has names for them. */
-        private static final String WORDS = 
+        private static final String WORDS =
                 "same doubt need fingers keep strike if and or not grave child cleared guilty pairs against points class age ";
         static final int NUMBER = 20;
         static final int END = 21;
