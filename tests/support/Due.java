@@ -13,14 +13,20 @@ final class Due {
     }
 
     private static int wrong;
+    private static String about = "";
 
     private Due() {
+    }
+
+    /** What stands ahead of each wrong answer that is printed from now on. */
+    static void about(String what) {
+        about = what;
     }
 
     static void is(String what, long due, long got) {
         if (due != got) {
             wrong++;
-            System.out.println(what + " answered " + got + ", due is " + due);
+            System.out.println(about + what + " answered " + got + ", due is " + due);
         }
     }
 
@@ -38,7 +44,7 @@ final class Due {
         }
         if (!got.equals(due.getName())) {
             wrong++;
-            System.out.println(what + " threw " + got + ", due is " + due.getName());
+            System.out.println(about + what + " threw " + got + ", due is " + due.getName());
         }
     }
 
