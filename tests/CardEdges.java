@@ -109,8 +109,8 @@ public final class CardEdges {
 
     private static void noSuchFinger() {
         // the rich past has prints 0 to 2, cards 0 to 3
-        int[][] wrong = {{-1, 0, 0}, {4, 0, 0}, {MIN, 0, 0}, {MAX, 0, 0}, {0, -1, 0}, {0, 10, 0}, {0, MIN, 0}, {0, MAX, 0},
-            {0, 0, -2}, {0, 0, 3}, {0, 0, MIN}, {0, 0, MAX}, {-1, 0, -1}, {0, 10, -1}};
+        int[][] wrong = {{-1, 0, 0}, {4, 0, 0}, {MIN, 0, 0}, {MAX, 0, 0}, {0, -1, 0}, {0, 10, 0}, {0, MIN, 0},
+            {0, MAX, 0}, {0, 0, -2}, {0, 0, 3}, {0, 0, MIN}, {0, 0, MAX}, {-1, 0, -1}, {0, 10, -1}};
         for (int[] f : wrong) {
             Twins.same("finger " + f[0] + " " + f[1] + " " + f[2], Past::rich,
                     x -> Due.outside("finger", () -> x.finger(f[0], f[1], f[2])));
@@ -504,10 +504,12 @@ public final class CardEdges {
         Edge.of(17, "A FINGER has a PRINT (NONE: it is MISSING): whether it was otherwise.", CardEdges::otherwise);
         Edge.ofTerms("each has a PRINT, or is MISSING (so at first)", CardEdges::otherwise);
         Edge.of(17, "throws IndexOutOfBoundsException", CardEdges::noSuchFinger);
-        Edge.ofTerms("IndexOutOfBoundsException: there is no such PRINT, CELL, CORNER, CARD, FINGER", CardEdges::noSuchCard);
+        Edge.ofTerms("IndexOutOfBoundsException: there is no such PRINT, CELL, CORNER, CARD, FINGER",
+                CardEdges::noSuchCard);
         Edge.of(18, "IllegalArgumentException: not NONE to 7.", CardEdges::secondClasses);
         Edge.of(18, "false, and nothing happens, if 4 others are DOUBTFUL", CardEdges::aFifthDoubtful);
-        Edge.ofTerms("At most 4 FINGERS of a CARD may be DOUBTFUL (MISSING ones count, too).", CardEdges::aFifthDoubtful);
+        Edge.ofTerms("At most 4 FINGERS of a CARD may be DOUBTFUL (MISSING ones count, too).",
+                CardEdges::aFifthDoubtful);
         Edge.of(18, "throws IndexOutOfBoundsException", CardEdges::noSuchCard);
     }
 
@@ -515,19 +517,24 @@ public final class CardEdges {
         Edge.of(19, "CLASS of a FINGER by the READING without second ones.", CardEdges::withoutSecondOnes);
         Edge.ofTerms("A MISSING one has the CLASS of the same FINGER of the other hand, 7 if that is MISSING, too.",
                 CardEdges::ofTheOtherHand);
+        Edge.ofTerms("FINGERS 0 to 9 (0 to 4 one hand, 5 to 9 the other, so that 5 more is the same finger of it)",
+                CardEdges::ofTheOtherHand);
         Edge.ofTerms("LEFT 2 with RIDGES up to 9, 3 with more, RIGHT 4 and 5 likewise", CardEdges::fewAndMoreRidges);
         Edge.of(20, "FILE NUMBER: UPPER (lower false) or LOWER.", CardEdges::signsOfNumbers);
         Edge.ofTerms("as signs of a number to the base 8, the first one the highest", CardEdges::signsOfNumbers);
         Edge.of(21, "DRAWERS.", CardEdges::countsOfDrawers);
-        Edge.ofTerms("how many unlike NUMBERS (UPPER and LOWER together) its READINGS have", CardEdges::countsOfDrawers);
+        Edge.ofTerms("how many unlike NUMBERS (UPPER and LOWER together) its READINGS have",
+                CardEdges::countsOfDrawers);
         Edge.ofTerms("(a MISSING one: that which the other hand's has in this READING)",
                 CardEdges::drawersOfMissingOnes);
         Edge.of(22, "LIKE CARD n (from 0 on); NONE if there is none such.", CardEdges::likeOnes);
         Edge.ofTerms("some READING has the NUMBER of some READING of it, by numbers", CardEdges::upperAndLowerTogether);
         Edge.ofTerms("all other CARDS that are in the file (not STRUCK)", CardEdges::struckOnes);
         Edge.of(36, "NoSuchElementException: another what.", CardEdges::looks);
+        Edge.of(36, "2 DAY at whose end it was STRUCK (NONE)", CardEdges::looks);
         Edge.of(39, "1 by 1 without PRINTS", CardEdges::withoutPrints);
-        Edge.ofTerms("(not MISSING; that CARD, too, if it is in the file)", CardEdges::inTheFileOrNot);
+        Edge.ofTerms("(not MISSING; that CARD, too, if it is in the file), by two more than how many have a PRINT there",
+                CardEdges::inTheFileOrNot);
         Edge.ofTerms("all multiplied, as a fraction as low as can be", CardEdges::asLowAsCanBe);
     }
 

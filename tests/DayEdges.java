@@ -234,6 +234,26 @@ public final class DayEdges {
         hit(x, 9, 1, 0, 3);
     }
 
+    /** Each mark of 20 by itself, each finger of a card by itself: that mark alone is compared with none. */
+    private static void eachMarkProved() {
+        for (int mark = 0; mark < 20; mark++) {
+            RidgeBureau x = bureau(20, 0b1010, 2, 10);
+            Due.rules(x, 0, "same if pairs<1");
+            x.say(mark % 6, mark, 1, mark % 10, 1);
+            for (int other = 0; other < 20; other++) {
+                if (other != mark) {
+                    x.say(0, other, 1, other % 10, other % 2 * 2);
+                }
+            }
+            x.desk(60);
+            // 12 comparisons a mark, 60 a day
+            x.days(4);
+            for (int other = 0; other < 20; other++) {
+                Due.is("left of " + other + " on day 4, proved is " + mark, other == mark ? 12 : 0, x.left(other));
+            }
+        }
+    }
+
     private static void provedUponAStruckCard() {
         RidgeBureau x = bureau(1, 0, 2, 4);
         Due.rules(x, 0, "same if pairs<1;strike if cleared");
@@ -518,6 +538,37 @@ public final class DayEdges {
         Due.is("of no rows", -1, new RidgeBureau().check());
     }
 
+    /** Cards, marks, sayings, rules and what is told of cards, on the first day, one between, and the last. */
+    private static void toldToday() {
+        for (int today : new int[] {0, 1, 77, 2000}) {
+            RidgeBureau x = bureau(0, 0);
+            passDays(x, today);
+            x.card(5);
+            x.finger(0, 0, 0);
+            x.mark(0, 0, 9, 9, false);
+            Due.rules(x, today, "same if not age<0 and not age>0;doubt if age<2;keep 1;keep 2 if child");
+            x.say(0, 0, 0, 0, 1);
+            x.tell(0, 0);
+            Due.is("card taken on", today, x.look(0, 1));
+            int[] verdicts = {0, 2, 1, 0};
+            for (int i = 0; i < 4; i++) {
+                int day = today - 1 + i;
+                Due.is("verdict on day " + day, verdicts[i], x.verdict(0, 0, day));
+                Due.is("said on day " + day, i == 0 ? -1 : 1, x.said(0, 0, 0, 0, day));
+                Due.is("proved on day " + day, i == 1, x.proved(0, 0, 0, day));
+                Due.is("kept on day " + day, i == 0 ? 0 : 2, x.kept(0, day));
+                Due.is("person on day " + day, i == 0 ? -1 : 0, x.person(0, day));
+            }
+            if (today < 2000) {
+                x.days(2);
+                hit(x, 0, 0, 0, 0, 1, 0, today + 1);
+                Due.is("kept 2", -1, x.look(0, 2));
+                x.days(1);
+                Due.is("struck on", today + 3, x.look(0, 2));
+            }
+        }
+    }
+
     private static void desks() {
         Edge.of(34, "IllegalArgumentException: they are none.", DayEdges::deskBounds);
         Edge.of(34, "COMPARISONS a DAY.", DayEdges::comparisonsADay);
@@ -528,7 +579,8 @@ public final class DayEdges {
         Edge.ofTerms("(A FINGER that is given another PRINT, or none, was compared with no MARK; POINTS that come later"
                 + " change nothing of that.)", DayEdges::notComparedYet);
         Edge.ofTerms("MARKS that are not PROVED TODAY", DayEdges::provedToday);
-        Edge.ofTerms("upon any FINGER of a CARD in the file", DayEdges::provedUponAStruckCard);
+        Edge.ofTerms("upon any FINGER of a CARD in the file", DayEdges::eachMarkProved);
+        Edge.ofTerms("of a CARD in the file, GRAVE ones first", DayEdges::provedUponAStruckCard);
     }
 
     private static void days() {
@@ -536,6 +588,7 @@ public final class DayEdges {
         Edge.of(35, "So many DAYS, as far as TODAY may go: TODAY.", DayEdges::lastDay);
         Edge.ofTerms("TODAY is one more (0 at first, 2000 at last)", DayEdges::lastDay);
         Edge.ofTerms("Then CARDS are STRUCK.", DayEdges::strikeBehindTheDesk);
+        Edge.ofTerms("What was told (CARDS, MARKS, sayings, RULES) on a DAY is TODAY's.", DayEdges::toldToday);
         Edge.ofTerms("its age is above what it is KEPT", DayEdges::longerThanKept);
         Edge.ofTerms("some keep RULE is in force (whether it holds or not): for ever", DayEdges::someKeepRule);
         Edge.ofTerms("A CARD is STRUCK at the end of a DAY (by the RULES of that DAY) if some strike RULE holds",
@@ -551,6 +604,7 @@ public final class DayEdges {
         Edge.of(40, "NoSuchElementException: there is none such.", DayEdges::rowsThereAre);
         Edge.ofTerms("ROWS: the latest 6 HITS", DayEdges::rowsThereAre);
         Edge.ofTerms("may be TORN (exclusive or with a mask)", DayEdges::masks);
+        Edge.of(37, "4 PAIRS as kept", DayEdges::masks);
         Edge.of(40, "PAIRS of ROW i (of the latest 6 HITS, from 0, the oldest, on) are TORN: what they are then.",
                 DayEdges::masks);
         Edge.of(41, "CHECK: the ROW; NONE.", DayEdges::firstTornRow);

@@ -222,10 +222,12 @@ public final class ExaminerEdges {
         Edge.of(26, "or the FINGER is MISSING", ExaminerEdges::missingFingers);
         Edge.ofTerms("a FINGER of a CARD that has a PRINT", ExaminerEdges::missingFingers);
         Edge.ofTerms("CARD, FINGER, MARK, EXAMINER.", ExaminerEdges::noSuch);
+        Edge.ofTerms("EXAMINERS 0 to 5", ExaminerEdges::noSuch);
         Edge.of(27, "What an EXAMINER says, as known on a DAY; NONE: nothing.", ExaminerEdges::asKnownOnADay);
         Edge.ofTerms("of each EXAMINER what was said last up to it (of that MARK, CARD, FINGER) counts",
                 ExaminerEdges::eachByItself);
-        Edge.ofTerms("at least so many EXAMINERS say same as the last need RULE of it (1 without)", ExaminerEdges::needed);
+        Edge.ofTerms("at least so many EXAMINERS say same as the last need RULE of it (1 without)",
+                ExaminerEdges::needed);
         Edge.ofTerms("and none says not", ExaminerEdges::noneSaysNot);
         Edge.of(28, "PROVED on a DAY", ExaminerEdges::provedOnDays);
         Edge.of(28, "(by the PRINT that the FINGER has now; MISSING: false)", ExaminerEdges::byThePrintOfNow);

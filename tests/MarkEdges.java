@@ -79,8 +79,7 @@ public final class MarkEdges {
         Due.is("a point of mark 19", 0, x.spot(19, 20, 20, 0, 0));
         Due.is("mark 19 laid", 1, x.lay(19, 0, 0));
         Due.outside("mark 20", () -> x.lay(20, 0, 0));
-        // mark 19 is the one mark that has a point upon which nothing lies as it came last
-        Due.is("mark 18 laid", 0, x.lay(18, 0, 0));
+        Due.is("mark 18 has none", 0, x.lay(18, 0, 0));
     }
 
     // ---- promise 13
@@ -252,7 +251,7 @@ public final class MarkEdges {
         }
     }
 
-    /** Points 0 to 6 of the mark may pair with two of the print each, the last one with the first of the print alone. */
+    /** Points 0 to 6 of the mark may pair with two of the print each, the last one with the first alone. */
     private static void chainOfPairs() {
         int[][] print = new int[8][];
         int[][] mark = new int[8][];
@@ -343,8 +342,8 @@ public final class MarkEdges {
         eitherWay("the least turn", two, one, around, 1, 0, 0, -10, -10);
         eitherWay("fewer against by turn 1", points(20, 20, 0, 0, 40, 40, 0, 4, 22, 22, 1, 9), one, around,
                 1, 0, 1, 40 - 33, 40 - 30);
-        eitherWay("fewer against by the lesser turn again", points(20, 20, 0, 0, 40, 40, 0, 4, 22, 22, 1, 9, 40, 42, 1, 9),
-                one, around, 1, 1, 0, -10, -10);
+        eitherWay("as many against by both turns",
+                points(20, 20, 0, 0, 40, 40, 0, 4, 22, 22, 1, 9, 40, 42, 1, 9), one, around, 1, 1, 0, -10, -10);
         // more pairs, though more against, and by a greater turn
         eitherWay("more pairs", points(20, 20, 0, 0, 40, 40, 0, 4, 40, 37, 0, 4, 41, 41, 1, 9),
                 points(30, 30, 0, 0, 27, 30, 0, 0), around, 2, 1, 1, 40 - 33, 40 - 30);
@@ -372,13 +371,26 @@ public final class MarkEdges {
 
     private static void noPoints() {
         int[][] none = new int[0][];
-        int[][] eight = points(1, 1, 0, 0, 2, 2, 0, 0, 3, 3, 0, 0, 4, 4, 0, 0, 5, 5, 0, 0, 6, 6, 0, 0, 7, 7, 0, 0, 8, 8, 0, 0);
+        int[][] eight = new int[8][];
+        for (int i = 0; i < 8; i++) {
+            eight[i] = new int[] {i + 1, i + 1, 0, 0};
+        }
         best("none on both", bureau(none, none), 0, 0, 0, 0, 0);
         best("none of the mark", bureau(eight, none), 0, 0, 0, 0, 0);
         best("none of the print", bureau(none, eight), 0, 0, 0, 0, 0);
         best("one of each", bureau(points(5, 5, 0, 0), points(1, 2, 0, 0)), 1, 0, 0, 4, 3);
         // points that pair with none: there is a lay, and all of them are against it
-        best("one of each that do not pair", bureau(points(5, 5, 0, 0), points(1, 2, 1, 0)), 0, 2, 0, 4, 3);
+        RidgeBureau x = bureau(points(5, 5, 0, 0), points(1, 2, 1, 0));
+        best("one of each that do not pair", x, 0, 2, 0, 4, 3);
+        // the same behind other lays of the same object, of pairs and of none
+        int other = x.mark(0, 0, 63, 63, false);
+        Due.is("a mark without points", 0, x.lay(other, 0, 1));
+        x.spot(other, 5, 5, 0, 0);
+        Due.is("a mark that pairs", 1, x.lay(other, 0, 0));
+        best("one of each that do not pair, behind others", x, 0, 2, 0, 4, 3);
+        x.spot(other, 6, 5, 1, 8);
+        Due.is("its second point is against", 1, x.lay(other, 0, 1));
+        best("one of each that do not pair, behind others", x, 0, 2, 0, 4, 3);
     }
 
     private static void whats() {
@@ -419,6 +431,22 @@ public final class MarkEdges {
         }
     }
 
+    /** What was asked once is asked again behind each change of the points and the slack. */
+    private static void pointsThatCome() {
+        RidgeBureau x = bureau(points(20, 20, 0, 0), points(20, 20, 0, 0));
+        best("one of each", x, 1, 0, 0, 0, 0);
+        x.point(0, 34, 20, 0, 0);
+        best("a point of the print more", x, 1, 1, 0, 0, 0);
+        x.spot(0, 33, 20, 0, 0);
+        best("one of the mark more", x, 2, 0, 0, 0, 0);
+        x.slack(0);
+        best("without slack", x, 1, 2, 0, -13, 0);
+        x.spot(0, 34, 20, 0, 0);
+        best("a third of the mark", x, 2, 1, 0, 0, 0);
+        x.point(0, 33, 20, 0, 0);
+        best("a third of the print", x, 3, 0, 0, 0, 0);
+    }
+
     private static void marks() {
         Edge.of(12, "IllegalArgumentException: not 0 to x0 to x1 to 63, or y likewise", MarkEdges::rectangles);
         Edge.of(12, "UnsupportedOperationException: there are 20.", MarkEdges::aMarkTooMany);
@@ -434,6 +462,7 @@ public final class MarkEdges {
     private static void bestLays() {
         Edge.ofTerms("KINDS are one or one of them is unsure", MarkEdges::kinds);
         Edge.ofTerms("HEADINGS not unlike by more than 1 (modulo 16)", MarkEdges::headings);
+        Edge.ofTerms("its HEADING 4 more by each, modulo 16", MarkEdges::headings);
         Edge.ofTerms("comes to (x, y), (63 - y, x), (63 - x, 63 - y), (y, 63 - x) by 0, 1, 2, 3 quarters",
                 MarkEdges::turnsAndShifts);
         Edge.ofTerms("each POINT in one at most", MarkEdges::onePairEach);
@@ -444,11 +473,13 @@ public final class MarkEdges {
         Edge.ofTerms("may PAIR with none of the MARK's", MarkEdges::pairsTaken);
         Edge.ofTerms("that with the most PAIRS, then the fewest AGAINST, then the least TURN, the least SHIFT along x,"
                 + " along y", MarkEdges::orderOfLays);
-        Edge.ofTerms("those SHIFTS by which some POINT of the MARK comes just upon one of the PRINT", MarkEdges::justUpon);
+        Edge.ofTerms("those SHIFTS by which some POINT of the MARK comes just upon one of the PRINT",
+                MarkEdges::justUpon);
         Edge.ofTerms("without POINTS on one side there is none: PAIRS 0, AGAINST 0.", MarkEdges::noPoints);
         Edge.of(15, "(2 to 4 are 0 without one)", MarkEdges::noPoints);
         Edge.of(15, "NoSuchElementException: another what.", MarkEdges::whats);
         Edge.of(15, "Of BEST LAY of a MARK upon a PRINT", MarkEdges::lastOnLast);
+        Edge.of(15, "Of BEST LAY of a MARK upon a PRINT what 0 PAIRS, 1 AGAINST", MarkEdges::pointsThatCome);
         Edge.of(15, "throws IndexOutOfBoundsException", MarkEdges::noSuchMark);
     }
 

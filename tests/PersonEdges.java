@@ -112,6 +112,42 @@ public final class PersonEdges {
         }
     }
 
+    private static int kindOf(int n) {
+        return Integer.bitCount(n) % 2;
+    }
+
+    /** Of 20 prints and 20 marks each has one point, an end or a fork: marks on prints, then prints on prints. */
+    private static void eachOnEach() {
+        RidgeBureau x = bureau(2);
+        for (int p = 4; p < 20; p++) {
+            Due.print(x, Due.LEFT);
+        }
+        for (int n = 0; n < 20; n++) {
+            if (n >= 4) {
+                x.point(n, 20, 20, kindOf(n), 0);
+            }
+            x.mark(0, 0, 63, 63, false);
+            x.spot(n, 20, 20, 1 - kindOf(n), 0);
+        }
+        Due.rules(x, 0, "same if pairs>0");
+        for (int m = 4; m < 20; m++) {
+            for (int p = 4; p < 14; p++) {
+                Due.is("mark " + m + " on " + p, kindOf(m) == kindOf(p) ? 0 : 1, x.lay(m, p, 0));
+            }
+        }
+        for (int way = 0; way < 3; way++) {
+            int due = 0;
+            for (int f = 0; f < 10; f++) {
+                int other = 4 + (f * (2 * way + 1) + way) % 10;
+                x.finger(0, f, 4 + f);
+                x.finger(1, f, other);
+                due += kindOf(4 + f) == kindOf(other) ? 1 : 0;
+            }
+            Due.is("alike, way " + way, due, x.alike(0, 1, 0));
+            Due.is("alike, way " + way, due, x.alike(1, 0, 0));
+        }
+    }
+
     private static void noSuchCard() {
         for (int c : new int[] {-1, 4, 16, MIN, MAX}) {
             Twins.same("card " + c, Past::rich, x -> {
@@ -270,12 +306,15 @@ public final class PersonEdges {
 
     public static void main(String[] args) {
         Edge.of(29, "How many FINGERS of two CARDS are ALIKE on a DAY.", PersonEdges::fingersAlike);
+        Edge.ofTerms("are ALIKE: the PRINTS' CLASSES are one", PersonEdges::fingersAlike);
         Edge.ofTerms("(the same ones of both, both with PRINTS)", PersonEdges::ofTheOtherFinger);
         Edge.ofTerms("(not grave, age 0), has the VERDICT SAME", PersonEdges::verdictOfTwoPrints);
         Edge.ofTerms("laid on the other one as a MARK that has all CLEAR", PersonEdges::clearOfALaidPrint);
+        Edge.ofTerms("that of the CARD of the lesser number, laid on the other one as a MARK", PersonEdges::eachOnEach);
         Edge.of(29, "throws IndexOutOfBoundsException", PersonEdges::noSuchCard);
         Edge.ofTerms("as the last fingers RULE of it (3 without)", PersonEdges::enoughFingers);
         Edge.of(30, "NONE, if it was not taken", PersonEdges::takenOn);
+        Edge.ofTerms("TWO CARDS are ONE on a DAY, if both were taken up to it", PersonEdges::takenOn);
         Edge.of(30, "or was STRUCK by then", PersonEdges::struckBetween);
         Edge.ofTerms("(STRUCK ones on that DAY, or ahead of it, are left out.)", PersonEdges::struckBetween);
         Edge.of(30, "The least CARD of the PERSON of a CARD on a DAY", PersonEdges::chain);

@@ -479,6 +479,43 @@ public final class PrintEdges {
         return sum;
     }
 
+    /** A core and a delta, each direction so much more, over 7 and on from 0. */
+    private static void roundTheDirections() {
+        RidgeBureau x = new RidgeBureau();
+        for (int more = 0; more < 8; more++) {
+            int a = more;
+            int b = (more + 2) % 8;
+            int c = (more + 4) % 8;
+            int d = (more + 6) % 8;
+            int print = new Field().around(2, 2, a, b, c, d).around(5, 2, a, d, c, b).around(2, 5, a, a, b, b).on(x);
+            Due.is("a core from " + a, 8, x.turn(print, Field.corner(2, 2)));
+            Due.is("a delta from " + a, -8, x.turn(print, Field.corner(5, 2)));
+            Due.is("a plain one from " + a, 0, x.turn(print, Field.corner(2, 5)));
+        }
+    }
+
+    /** Of a core and a delta by steps of 3, 3, 3, - 1: one cell is blank, or makes a step of 4. */
+    private static void blankOrUnsure() {
+        int[][] sure = {{0, 3, 6, 1}, {0, 5, 2, 7}, {0, 1, 0, 7}};
+        int[] due = {8, -8, 0};
+        for (int i = 0; i < sure.length; i++) {
+            for (int at = 0; at < 4; at++) {
+                RidgeBureau x = new RidgeBureau();
+                int[] blank = sure[i].clone();
+                blank[at] = -1;
+                int[] unsure = sure[i].clone();
+                unsure[at] = (unsure[(at + 1) % 4] + 4) % 8;
+                new Field().around(4, 4, sure[i]).on(x);
+                new Field().around(4, 4, blank).on(x);
+                new Field().around(4, 4, unsure).on(x);
+                Due.is("sure", due[i], x.turn(0, Field.corner(4, 4)));
+                Due.is("blank, cell " + at, -1, x.turn(1, Field.corner(4, 4)));
+                Due.is("unsure, cell " + at, -1, x.turn(2, Field.corner(4, 4)));
+                Due.is("pattern of a field with none", 0, x.pattern(1) + x.pattern(2));
+            }
+        }
+    }
+
     /** A core, a delta, and plain ones, alone among blank cells, at each corner. */
     private static void eachCorner() {
         int[][] fours = {{0, 2, 4, 6}, {0, 6, 4, 2}, {7, 0, 7, 0}};
@@ -516,6 +553,8 @@ public final class PrintEdges {
         Edge.of(6, "throws IndexOutOfBoundsException", PrintEdges::noSuchCell);
         Edge.ofTerms("what the DIRECTION is more, modulo 8, as - 3 to 4 (4: it is UNSURE)", PrintEdges::allCorners);
         Edge.of(7, "TURN of a CORNER; NONE: there is none.", PrintEdges::allCorners);
+        Edge.ofTerms("one that is 8 further is the same", PrintEdges::roundTheDirections);
+        Edge.ofTerms("none, if a CELL is BLANK or a STEP UNSURE.", PrintEdges::blankOrUnsure);
         Edge.ofTerms("CORNERS x 1 to 7, y 1 to 7, number 7 (y - 1) + x - 1", PrintEdges::eachCorner);
         Edge.of(7, "throws IndexOutOfBoundsException", PrintEdges::noSuchCorner);
     }
@@ -533,7 +572,8 @@ public final class PrintEdges {
                 for (int i = 0; i < deltas; i++) {
                     field.delta(3 * i + 1, 7);
                 }
-                int due = cores == 0 && deltas == 0 ? 0 : cores == 1 && deltas == 1 ? 1 : cores == 2 && deltas == 2 ? 4 : 5;
+                // as many of both: none is an arch, one a tent (they stand one above the other), two a whorl
+                int due = cores != deltas || cores == 3 ? 5 : cores == 2 ? 4 : cores;
                 int print = field.on(x);
                 Due.is("pattern of " + cores + " cores, " + deltas + " deltas", due, x.pattern(print));
                 Due.is("core " + cores, -1, x.singular(print, cores, false));
@@ -586,21 +626,25 @@ public final class PrintEdges {
     private static final int[] ALONG_X = {0, 1, 2, 3, 3, 3, 2, 1, 0};
     private static final int[] ALONG_Y = {3, 3, 2, 1, 0, 1, 2, 3, 0};
 
+    private static void crossed(String what, int due, Field field) {
+        RidgeBureau x = new RidgeBureau();
+        Due.is(what, due, x.ridges(field.on(x)));
+    }
+
     /** One cell of each direction, and a blank one, is crossed each way; what the core and the delta cross stays. */
     private static void ridgesOfACell() {
         for (int i = 0; i <= 8; i++) {
             int d = i == 8 ? -1 : i;
-            RidgeBureau x = new RidgeBureau();
             // right along y = 2 by (2, 2), which is 4, and (3, 2); down along x = 4 by (4, 5), which is 6
-            Due.is("right by " + d, 3 + ALONG_X[i] + 2, x.ridges(new Field().core(2, 2).delta(4, 6).cell(3, 2, d).on(x)));
+            crossed("right by " + d, 3 + ALONG_X[i] + 2, new Field().core(2, 2).delta(4, 6).cell(3, 2, d));
             // left along y = 2 by (5, 2), which is 6, (4, 2) and (3, 2); down along x = 3 by (3, 5), which is 6
-            Due.is("left by " + d, 2 + ALONG_X[i] + 2, x.ridges(new Field().core(6, 2).delta(3, 6).cell(4, 2, d).on(x)));
+            crossed("left by " + d, 2 + ALONG_X[i] + 2, new Field().core(6, 2).delta(3, 6).cell(4, 2, d));
             // right by (2, 2), which is 4; down along x = 3 by (3, 2) to (3, 5), which is 6
-            Due.is("down by " + d, 3 + ALONG_Y[i] + 2, x.ridges(new Field().core(2, 2).delta(3, 6).cell(3, 4, d).on(x)));
+            crossed("down by " + d, 3 + ALONG_Y[i] + 2, new Field().core(2, 2).delta(3, 6).cell(3, 4, d));
             // right by (2, 6), which is 4; up along x = 3 by (3, 5) to (3, 2), which is 4
-            Due.is("up by " + d, 3 + ALONG_Y[i], x.ridges(new Field().core(2, 6).delta(3, 2).cell(3, 4, d).on(x)));
+            crossed("up by " + d, 3 + ALONG_Y[i], new Field().core(2, 6).delta(3, 2).cell(3, 4, d));
             // a tent: from (2, 2) down by (2, 2), which is 4, (2, 3), (2, 4) and (2, 5), which is 6
-            Due.is("a tent's by " + d, ALONG_Y[i] + 2, x.ridges(new Field().core(2, 2).delta(2, 6).cell(2, 3, d).on(x)));
+            crossed("a tent's by " + d, ALONG_Y[i] + 2, new Field().core(2, 2).delta(2, 6).cell(2, 3, d));
         }
     }
 
@@ -637,11 +681,15 @@ public final class PrintEdges {
 
     private static void promises8to10() {
         Edge.of(8, "PATTERN.", PrintEdges::countsOfSingulars);
+        Edge.ofTerms("0 ARCH: no CORE, no DELTA; one of each", PrintEdges::countsOfSingulars);
         Edge.ofTerms("4 WHORL: two of each; 5 ODD: anything else", PrintEdges::countsOfSingulars);
         Edge.ofTerms("1 TENT, if both have one x, 2 LEFT, if the DELTA's x is greater, 3 RIGHT, if less",
                 PrintEdges::sidesOfTheDelta);
         Edge.ofTerms("CORES and DELTAS are numbered by their CORNERS", PrintEdges::numberedByCorners);
-        Edge.of(9, "NONE if there is none such", PrintEdges::numberedByCorners);
+        Edge.of(9, "CORNER of CORE n (delta false) or DELTA n; NONE if there is none such", PrintEdges::numberedByCorners);
+        Edge.ofTerms("0, 1, 2, 3, 3, 3, 2, 1 ridges for DIRECTIONS 0 to 7; along y by the CELL that is right of it,"
+                + " 3, 3, 2, 1, 0, 1, 2, 3.", PrintEdges::ridgesOfACell);
+        Edge.ofTerms("CORNER by CORNER, first along x, then along y", PrintEdges::besideTheWay);
         Edge.ofTerms("A BLANK CELL: 0.", PrintEdges::ridgesOfACell);
         Edge.of(10, "RIDGES.", PrintEdges::besideTheWay);
         Edge.ofTerms("RIDGES of a PRINT with PATTERN 1 to 4 (else 0)", PrintEdges::otherPatterns);

@@ -37,9 +37,10 @@ public final class RuleEdges {
     private static final List<String> KINDS = List.of("same", "doubt", "need", "fingers", "keep", "strike");
     private static final List<String> TAGS = List.of("grave", "child", "cleared", "guilty");
     private static final List<String> FACTS = List.of("pairs", "against", "points", "class", "age");
-    private static final List<String> OTHERS = List.of("if", "and", "or", "(", ")", "<", ">", ";", "1", "not", "x", "#");
+    private static final List<String> OTHERS =
+            List.of("if", "and", "or", "(", ")", "<", ">", ";", "1", "not", "x", "#");
 
-    /** Behind so much of a text: whether it may end there, and all things that can stand there. */
+    /** Behind so much of a text: whether it may end there, and lists of all things that can stand there. */
     @SafeVarargs
     private static void behind(String text, boolean mayEnd, List<String>... lists) {
         int at = text.isEmpty() ? 0 : text.length() + 1;
@@ -48,7 +49,10 @@ public final class RuleEdges {
         read(text + "  ", mayEnd, mayEnd ? rulesIn(text) : text.length() + 2);
         for (List<String> all : List.of(KINDS, TAGS, FACTS, OTHERS)) {
             for (String word : all) {
-                boolean isDue = Arrays.stream(lists).anyMatch(list -> list.contains(word));
+                boolean isDue = false;
+                for (List<String> may : lists) {
+                    isDue |= may.contains(word);
+                }
                 String with = ahead + word;
                 boolean ends = TAGS.contains(word) || word.equals("1") || word.equals(")");
                 if (!isDue) {
@@ -147,8 +151,12 @@ public final class RuleEdges {
     private static void words() {
         for (List<String> all : List.of(KINDS, TAGS, FACTS, List.of("if", "and", "or", "not"))) {
             for (String word : all) {
-                wrong("need 1;" + word + "s", 7);
-                wrong("need 1;" + "s" + word, 7);
+                for (String letter : List.of("a", "s", "z")) {
+                    wrong("need 1;" + word + letter, 7);
+                    wrong("need 1;" + letter + word, 7);
+                    wrong("need 1;" + word + letter + " if grave", 7);
+                }
+                otherLetters(word);
                 if (!word.equals("and") && !word.equals("or")) {
                     wrong("same if grave" + word, 8);
                 }
@@ -176,12 +184,31 @@ public final class RuleEdges {
         }
     }
 
+    /** Each letter of a word that could stand there is another one. */
+    private static void otherLetters(String word) {
+        String ahead = KINDS.contains(word) ? "" : "same if grave and ";
+        for (int i = 0; i < word.length(); i++) {
+            for (String letter : List.of("q", "z", word.toUpperCase().substring(i, i + 1))) {
+                String other = word.substring(0, i) + letter + word.substring(i + 1);
+                // a great letter is no letter of a word: the word ends ahead of it
+                boolean isWord = Character.isLowerCase(letter.charAt(0));
+                boolean isSign = !isWord && (i == 0 || isNone(word.substring(0, i)));
+                wrong(ahead + other, isWord || isSign ? ahead.length() : ahead.length() + i);
+            }
+        }
+    }
+
+    private static boolean isNone(String word) {
+        return !KINDS.contains(word) && !TAGS.contains(word) && !FACTS.contains(word) && !OTHERS.contains(word);
+    }
+
     private static void blanks() {
         right("", 0);
         right(" ", 0);
         right(" ".repeat(400), 0);
         right("need6;keep0000if(age>0)or child and not(grave);fingers10;same if pairs<1and guilty", 4);
-        String[] things = {"keep", "7", "if", "(", "age", ">", "1", "or", "not", "grave", ")", "and", "child", ";", "need", "1"};
+        String[] things = {"keep", "7", "if", "(", "age", ">", "1", "or", "not", "grave", ")", "and", "child", ";",
+            "need", "1"};
         String ahead = "";
         for (int i = 0; i < things.length; i++) {
             ahead += things[i] + " ";
@@ -521,6 +548,97 @@ public final class RuleEdges {
         Due.is("other facts are 0", 3, x.kept(0, 2));
     }
 
+    /** What was found of a mark just ahead has no part in what holds of a card. */
+    private static void otherFactsAreZero() {
+        RidgeBureau x = bureau();
+        x.card(1);
+        x.finger(0, 0, 0);
+        Due.rules(x, 2, "doubt if pairs>0;keep 5 if pairs>0 or against>0 or points>0 or class>0 or grave;"
+                + "keep 6 if pairs<0 or against<0 or points<0 or class<0 or age<0");
+        Due.is("the grave mark has pairs", 1, x.verdict(0, 0, 2));
+        Due.is("kept behind it", 0, x.kept(0, 2));
+        Due.is("the grave mark has pairs", 1, x.verdict(0, 0, 2));
+        Due.is("another mark has pairs", 1, x.verdict(1, 0, 2));
+        Due.is("kept behind it", 0, x.kept(0, 2));
+        Due.rules(x, 2, "doubt if pairs>0;strike if pairs>0 or against>0 or points>0 or class>0 or grave;"
+                + "strike if pairs<0 or against<0 or points<0 or class<0 or age<0");
+        x.days(1);
+        Due.is("hits", 2, x.count(8));
+        Due.is("not struck behind them", -1, x.look(0, 2));
+        // nor has what was told of a card a part in what holds of a mark, or of two prints
+        for (int what = 0; what < 3; what++) {
+            x.tell(0, what);
+        }
+        Due.rules(x, 3, "same if child or cleared or guilty or not class<9999;keep 7 if child and cleared and guilty");
+        Due.is("all is told of the card", 7, x.kept(0, 3));
+        Due.is("nothing of the mark", 0, x.verdict(1, 0, 3));
+        Due.is("all is told of the card", 7, x.kept(0, 3));
+        Due.is("nothing of two prints", 0, x.alike(0, 0, 3));
+    }
+
+    /** Texts of 400 bytes, wrong ones and right ones, by turns: each is read and kept whole. */
+    private static void longTexts() {
+        RidgeBureau x = new RidgeBureau();
+        x.card(1);
+        String many = "age<1" + " or age>9".repeat(42);
+        for (int i = 0; i < 8; i++) {
+            String text = "keep " + (i + 1) + " if " + many;
+            Due.is("a long text", 1, Due.rules(x, i, text + " ".repeat(400 - text.length())));
+            Due.is("kept by it on day " + i, i == 0 ? 1 : 0, x.kept(0, i));
+            Due.is("kept by it on day 10", i + 1, x.kept(0, 10));
+        }
+        Due.is("the first one still", 1, x.kept(0, 0));
+        RidgeBureau y = new RidgeBureau();
+        y.card(1);
+        for (int i = 0; i < 12; i++) {
+            Due.write(y, "keep 1 if " + many + "o".repeat(390 - many.length()));
+            Due.illegal("a long wrong text", () -> y.rules(0));
+        }
+        Due.is("a right one behind them", 1, Due.rules(y, 0, "keep 8 if " + many));
+        Due.is("kept by it", 8, y.kept(0, 0));
+    }
+
+    /** A text of fewer rules, told behind one of more, has those alone. */
+    private static void shorterTexts() {
+        String[] longs = {"need 1;".repeat(11) + "need 5", "need 1;".repeat(11) + "fingers 9",
+            "need 1;".repeat(11) + "keep 9", "same if pairs<1;need 4;keep 3;fingers 8"};
+        for (String text : longs) {
+            RidgeBureau x = new RidgeBureau();
+            Due.print(x, Due.LEFT);
+            x.mark(0, 0, 63, 63, false);
+            for (int c = 0; c < 2; c++) {
+                x.card(c);
+                for (int f = 0; f < 3; f++) {
+                    x.finger(c, f, 0);
+                }
+            }
+            x.say(0, 0, 0, 0, 1);
+            Due.is("rules of the longer one", rulesIn(text), Due.rules(x, 0, text));
+            Due.rules(x, 1, "same if pairs<1");
+            Due.is("need of the shorter one: 1", true, x.proved(0, 0, 0, 1));
+            Due.is("fingers of the shorter one: 3", 0, x.person(1, 1));
+            Due.is("keep of the shorter one: none", 0, x.kept(0, 1));
+            Due.is("rules of the longer one", rulesIn(text), x.count(6));
+            x.days(1);
+            Due.is("rules of the shorter one", 1, x.count(6));
+            Due.is("no keep rule is in force", -1, x.look(0, 2));
+            Due.rules(x, 1, "");
+            Due.is("nor by an empty one", false, x.proved(0, 0, 0, 1));
+            x.days(1);
+            Due.is("no keep rule is in force", -1, x.look(0, 2));
+        }
+        RidgeBureau x = new RidgeBureau();
+        Due.print(x, Due.LEFT);
+        x.mark(0, 0, 63, 63, false);
+        x.card(0);
+        x.finger(0, 0, 0);
+        x.say(0, 0, 0, 0, 1);
+        Due.rules(x, 0, "same if pairs<1;" + "need 1;".repeat(10) + "need 2");
+        Due.is("the 12th rule is the last need rule", false, x.proved(0, 0, 0, 0));
+        x.say(1, 0, 0, 0, 1);
+        Due.is("two say same", true, x.proved(0, 0, 0, 0));
+    }
+
     private static void toldUpToADay() {
         String[] tags = {"child", "cleared", "guilty"};
         for (int what = 0; what < 3; what++) {
@@ -567,7 +685,10 @@ public final class RuleEdges {
 
     private static void texts() {
         Edge.of(23, "then: the text is wrong", RuleEdges::whatStandsWhere);
-        Edge.ofTerms("The first wrong byte: the begin of the first thing that cannot stand there", RuleEdges::whatStandsWhere);
+        Edge.ofTerms("RULE: same if C | doubt if C | need NUMBER | fingers NUMBER | keep NUMBER [ if C ] | strike if C.",
+                RuleEdges::whatStandsWhere);
+        Edge.ofTerms("The first wrong byte: the begin of the first thing that cannot stand there",
+                RuleEdges::whatStandsWhere);
         Edge.ofTerms("NUMBER: 1 to 4 digits; need 1 to 6, fingers 1 to 10.", RuleEdges::numbers);
         Edge.ofTerms("(a NUMBER of more digits, or out of its bounds;", RuleEdges::numbers);
         Edge.ofTerms("Words are as long as a to z go on", RuleEdges::words);
@@ -576,8 +697,11 @@ public final class RuleEdges {
         Edge.ofTerms("A text that is empty, or blanks alone, has no RULE.", RuleEdges::blanks);
         Edge.ofTerms("( and not within one another at most 6 deep.", RuleEdges::depths);
         Edge.ofTerms("the ( or not that is a 7th one deep", RuleEdges::depths);
-        Edge.ofTerms("of a 13th RULE its first word), or the text's length, if more must come.", RuleEdges::twelveRules);
+        Edge.ofTerms("of a 13th RULE its first word), or the text's length, if more must come.",
+                RuleEdges::twelveRules);
         Edge.ofTerms("RULE { ; RULE }, at most 12", RuleEdges::twelveRules);
+        Edge.of(23, "Uses the TAPE up: RULES from a DAY on: how many.", RuleEdges::longTexts);
+        Edge.of(23, "RULES from a DAY on: how many.", RuleEdges::shorterTexts);
         Edge.of(23, "IllegalArgumentException: the DAY is not TODAY to 2000", RuleEdges::firstAndLastDay);
         Edge.ofTerms("(today or later, 2000 at most;", RuleEdges::refusedDays);
         Edge.ofTerms("changes nothing but the TAPE, where it is used up, and fault(), where a text is read",
@@ -599,12 +723,13 @@ public final class RuleEdges {
         Edge.ofTerms("WHY: the first RULE of those that hold (NONE: VERDICT 0).", RuleEdges::firstOfThose);
         Edge.ofTerms("2 SAME, if some same RULE of that DAY holds; else 1 DOUBT, if some doubt RULE holds; else 0.",
                 RuleEdges::firstOfThose);
-        Edge.ofTerms("C: ALL { or ALL }; ALL: ATOM { and ATOM }", RuleEdges::conditions);
+        Edge.ofTerms("C: ALL { or ALL }; ALL: ATOM { and ATOM }; ATOM: not ATOM | ( C ) | TAG", RuleEdges::conditions);
         Edge.of(24, "throws IndexOutOfBoundsException", RuleEdges::noSuch);
         Edge.of(25, "throws IndexOutOfBoundsException", RuleEdges::noSuch);
         Edge.of(33, "throws IndexOutOfBoundsException", RuleEdges::noSuch);
         Edge.of(33, "How long a CARD is KEPT by the RULES of a DAY.", RuleEdges::greatestKept);
         Edge.ofTerms("the greatest of all keep RULES that hold (0 without)", RuleEdges::greatestKept);
+        Edge.ofTerms("other FACTS 0, grave: no", RuleEdges::otherFactsAreZero);
         Edge.ofTerms("child, cleared, guilty: what was told of it up to that DAY", RuleEdges::toldUpToADay);
         Edge.ofTerms("Of a CARD: age: DAYS since it was taken", RuleEdges::agesOfCards);
     }
