@@ -533,7 +533,7 @@ public final class CardEdges {
         Edge.of(36, "NoSuchElementException: another what.", CardEdges::looks);
         Edge.of(36, "2 DAY at whose end it was STRUCK (NONE)", CardEdges::looks);
         Edge.of(39, "1 by 1 without PRINTS", CardEdges::withoutPrints);
-        Edge.ofTerms("(not MISSING; that CARD, too, if it is in the file), by two more than how many have a PRINT there",
+        Edge.ofTerms("(not MISSING; that CARD, too, if it is in the file), by two more than how many have a PRINT",
                 CardEdges::inTheFileOrNot);
         Edge.ofTerms("all multiplied, as a fraction as low as can be", CardEdges::asLowAsCanBe);
     }

@@ -451,7 +451,9 @@ public final class PrintEdges {
             int print = cornersFrom(fours, i).on(x);
             for (int j = 0; j < 16 && i + j < fours.size(); j++) {
                 int[] four = fours.get(i + j);
-                Due.is("turn around " + four[0] + " " + four[1] + " " + four[2] + " " + four[3], turnOf(four),
+                int due = turnOf(four);
+                Due.is("turns of one kind", true, due == -8 || due == 0 || due == 8 || due == -1);
+                Due.is("turn around " + four[0] + " " + four[1] + " " + four[2] + " " + four[3], due,
                         x.turn(print, Field.corner(j % 4 * 2 + 1, j / 4 * 2 + 1)));
             }
         }
@@ -553,6 +555,7 @@ public final class PrintEdges {
         Edge.of(6, "throws IndexOutOfBoundsException", PrintEdges::noSuchCell);
         Edge.ofTerms("what the DIRECTION is more, modulo 8, as - 3 to 4 (4: it is UNSURE)", PrintEdges::allCorners);
         Edge.of(7, "TURN of a CORNER; NONE: there is none.", PrintEdges::allCorners);
+        Edge.ofTerms("(So each is told alone; TURN can be no other number than - 8, 0 and 8.)", PrintEdges::allCorners);
         Edge.ofTerms("one that is 8 further is the same", PrintEdges::roundTheDirections);
         Edge.ofTerms("none, if a CELL is BLANK or a STEP UNSURE.", PrintEdges::blankOrUnsure);
         Edge.ofTerms("CORNERS x 1 to 7, y 1 to 7, number 7 (y - 1) + x - 1", PrintEdges::eachCorner);
@@ -686,7 +689,8 @@ public final class PrintEdges {
         Edge.ofTerms("1 TENT, if both have one x, 2 LEFT, if the DELTA's x is greater, 3 RIGHT, if less",
                 PrintEdges::sidesOfTheDelta);
         Edge.ofTerms("CORES and DELTAS are numbered by their CORNERS", PrintEdges::numberedByCorners);
-        Edge.of(9, "CORNER of CORE n (delta false) or DELTA n; NONE if there is none such", PrintEdges::numberedByCorners);
+        Edge.of(9, "CORNER of CORE n (delta false) or DELTA n; NONE if there is none such",
+                PrintEdges::numberedByCorners);
         Edge.ofTerms("0, 1, 2, 3, 3, 3, 2, 1 ridges for DIRECTIONS 0 to 7; along y by the CELL that is right of it,"
                 + " 3, 3, 2, 1, 0, 1, 2, 3.", PrintEdges::ridgesOfACell);
         Edge.ofTerms("CORNER by CORNER, first along x, then along y", PrintEdges::besideTheWay);

@@ -685,7 +685,7 @@ public final class RuleEdges {
 
     private static void texts() {
         Edge.of(23, "then: the text is wrong", RuleEdges::whatStandsWhere);
-        Edge.ofTerms("RULE: same if C | doubt if C | need NUMBER | fingers NUMBER | keep NUMBER [ if C ] | strike if C.",
+        Edge.ofTerms("RULE: same if C | doubt if C | need NUMBER | fingers NUMBER | keep NUMBER [ if C ]",
                 RuleEdges::whatStandsWhere);
         Edge.ofTerms("The first wrong byte: the begin of the first thing that cannot stand there",
                 RuleEdges::whatStandsWhere);
@@ -723,7 +723,8 @@ public final class RuleEdges {
         Edge.ofTerms("WHY: the first RULE of those that hold (NONE: VERDICT 0).", RuleEdges::firstOfThose);
         Edge.ofTerms("2 SAME, if some same RULE of that DAY holds; else 1 DOUBT, if some doubt RULE holds; else 0.",
                 RuleEdges::firstOfThose);
-        Edge.ofTerms("C: ALL { or ALL }; ALL: ATOM { and ATOM }; ATOM: not ATOM | ( C ) | TAG", RuleEdges::conditions);
+        Edge.ofTerms("C: ALL { or ALL }; ALL: ATOM { and ATOM }; ATOM: not ATOM | ( C ) | TAG",
+                RuleEdges::conditions);
         Edge.of(24, "throws IndexOutOfBoundsException", RuleEdges::noSuch);
         Edge.of(25, "throws IndexOutOfBoundsException", RuleEdges::noSuch);
         Edge.of(33, "throws IndexOutOfBoundsException", RuleEdges::noSuch);
