@@ -112,6 +112,31 @@ public final class PersonEdges {
         }
     }
 
+    /** Of each two of three cards one has a print of two points, the other one of one: the lesser's points count. */
+    private static void personsByTheLesser() {
+        for (int two = 0; two < 3; two++) {
+            for (int one = 0; one < 3; one++) {
+                if (one == two) {
+                    continue;
+                }
+                RidgeBureau x = bureau(3);
+                x.point(0, 40, 40, 0, 0);
+                x.finger(two, 0, 0);
+                x.finger(one, 0, Due.print(x, Due.LEFT));
+                x.point(4, 20, 20, 0, 0);
+                Due.rules(x, 0, "same if points>1; fingers 1");
+                Due.rules(x, 1, "same if points<2; fingers 1");
+                for (int day = 0; day < 2; day++) {
+                    boolean areOne = two < one == (day == 0);
+                    Due.is("persons", areOne ? 2 : 3, x.persons(day, false));
+                    Due.is("of two names", areOne ? 1 : 0, x.persons(day, true));
+                    Due.is("the greater's person", areOne ? Math.min(one, two) : Math.max(one, two),
+                            x.person(Math.max(one, two), day));
+                }
+            }
+        }
+    }
+
     private static int kindOf(int n) {
         return Integer.bitCount(n) % 2;
     }
@@ -146,6 +171,39 @@ public final class PersonEdges {
             Due.is("alike, way " + way, due, x.alike(0, 1, 0));
             Due.is("alike, way " + way, due, x.alike(1, 0, 0));
         }
+    }
+
+    private static void shiftsOnMany(RidgeBureau x) {
+        for (int m : new int[] {0, 1, 2, 3, 9, 19}) {
+            for (int p : new int[] {0, 1, 19, 20, 21, 22, 40, 43}) {
+                Due.is("shift of mark " + m + " on print " + p, p - m, x.lay(m, p, 3));
+            }
+        }
+    }
+
+    /** Each of 44 prints and 20 marks has a point at an x of its own, so each lay has another shift. */
+    private static void manyOnMany() {
+        RidgeBureau x = new RidgeBureau();
+        for (int p = 0; p < 44; p++) {
+            x.point(Due.print(x, Due.LEFT), p, 20, p % 2, 0);
+        }
+        for (int m = 0; m < 20; m++) {
+            x.spot(x.mark(0, 0, 63, 63, false), m, 20, 2, 0);
+        }
+        Due.rules(x, 0, "same if pairs>0");
+        x.card(0);
+        x.card(1);
+        shiftsOnMany(x);
+        for (int f = 0; f < 10; f++) {
+            x.finger(0, f, f % 4);
+            x.finger(1, f, f % 3);
+        }
+        int due = 0;
+        for (int f = 0; f < 10; f++) {
+            due += f % 4 % 2 == f % 3 % 2 ? 1 : 0;
+        }
+        Due.is("alike", due, x.alike(0, 1, 0));
+        shiftsOnMany(x);
     }
 
     private static void noSuchCard() {
@@ -311,6 +369,8 @@ public final class PersonEdges {
         Edge.ofTerms("(not grave, age 0), has the VERDICT SAME", PersonEdges::verdictOfTwoPrints);
         Edge.ofTerms("laid on the other one as a MARK that has all CLEAR", PersonEdges::clearOfALaidPrint);
         Edge.ofTerms("that of the CARD of the lesser number, laid on the other one as a MARK", PersonEdges::eachOnEach);
+        Edge.ofTerms("laid on the other one as a MARK", PersonEdges::manyOnMany);
+        Edge.ofTerms("and that of the CARD of the lesser number, laid on the other one", PersonEdges::personsByTheLesser);
         Edge.of(29, "throws IndexOutOfBoundsException", PersonEdges::noSuchCard);
         Edge.ofTerms("as the last fingers RULE of it (3 without)", PersonEdges::enoughFingers);
         Edge.of(30, "NONE, if it was not taken", PersonEdges::takenOn);

@@ -485,13 +485,15 @@ public final class RuleEdges {
     private static void conditions() {
         String[] texts = {"A or B and C", "A and B or C", "not A or B", "not A and B or C", "(A or B) and C",
             "not (A or B) and C", "not not A and B", "A and not (B and not C)", "A or B or C", "A and B and C",
-            "not (not (A) and not (B or not C))", "A and B or A and C or B and C"};
+            "not (not (A) and not (B or not C))", "A and B or A and C or B and C", "A and (B or C)",
+            "(A or B) and (B or C)", "A and (B or C) and not (B and C)"};
         for (int bits = 0; bits < 8; bits++) {
             boolean a = (bits & 1) != 0;
             boolean b = (bits & 2) != 0;
             boolean c = (bits & 4) != 0;
             boolean[] due = {a || b && c, a && b || c, !a || b, !a && b || c, (a || b) && c, !(a || b) && c, a && b,
-                a && !(b && !c), a || b || c, a && b && c, a || b || !c, a && b || a && c || b && c};
+                a && !(b && !c), a || b || c, a && b && c, a || b || !c, a && b || a && c || b && c, a && (b || c),
+                (a || b) && (b || c), a && (b != c)};
             for (int i = 0; i < texts.length; i++) {
                 RidgeBureau x = new RidgeBureau();
                 x.card(0);
